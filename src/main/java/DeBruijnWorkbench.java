@@ -580,34 +580,28 @@ public final class DeBruijnWorkbench {
         }
 
         void become(Word other) {
-            clear();
-            addPart(other, 0, other.size());
+            copyFrom(other.letters, 0, other.size);
         }
 
         void copyTo(int[] row, int from) {
-            for (int i = 0; i < size; i++) {
-                if (from + i >= 0 && from + i < row.length) {
-                    row[from + i] = letters[i];
-                }
+            if (from >= 0 && from <= row.length - size) {
+                System.arraycopy(letters, 0, row, from, size);
             }
         }
 
         void copyFrom(int[] row, int from, int count) {
-            clear();
-            for (int i = 0; i < count; i++) {
-                if (from + i >= 0 && from + i < row.length) {
-                    add(row[from + i]);
-                }
+            if (count >= 0 && count <= CAPACITY && from >= 0 && from <= row.length - count) {
+                System.arraycopy(row, from, letters, 0, count);
+                size = count;
             }
         }
 
         boolean isSame(Word other) {
-            return size == other.size() && isSameUpTo(other, size);
-        }
-
-        private boolean isSameUpTo(Word other, int count) {
-            for (int i = 0; i < count; i++) {
-                if (at(i) != other.at(i)) {
+            if (size != other.size) {
+                return false;
+            }
+            for (int i = 0; i < size; i++) {
+                if (letters[i] != other.letters[i]) {
                     return false;
                 }
             }
@@ -1392,8 +1386,8 @@ public final class DeBruijnWorkbench {
         }
 
         /**
-         * The bits of a number that is 0.0 or has a magnitude from 2^-1022 on, found by exact
-         * doubling and halving: LANGUAGE.md has no call for them.
+         * The bits of 0.0 or of a number whose magnitude is from 2^-1022 to below 2, as that of an
+         * autocorrelation is, found by exact doubling: LANGUAGE.md has no call for them.
          */
         static long bitsOf(double number) {
             if (number == 0.0) {
@@ -1404,10 +1398,6 @@ public final class DeBruijnWorkbench {
             while (part < 1.0 && exponent > -1022) {
                 part = part * 2.0;
                 exponent--;
-            }
-            while (part >= 2.0 && exponent < 1023) {
-                part = part / 2.0;
-                exponent++;
             }
             long sign = number < 0.0 ? 1L << 63 : 0L;
             long fraction = (long) ((part - 1.0) * 4503599627370496.0);

@@ -23,7 +23,7 @@ public final class LanguageTest {
     private static final String CONSTANTS = "BAD_ARGUMENT=-1 NONE=-2 EMPTY=-3 FULL=-4 MISMATCH=-5 UNKNOWN_NAME=-6 "
         + "NOTHING_SAVED=-7 CONSTANT=-8 MISSING_TABLE=-11 WRONG_TYPE=-12 OUT_OF_BOUNDS=-13 NEGATIVE_LENGTH=-14";
     private static final String[] FORBIDDEN = {"\\bimport\\b", "\\bpackage\\b", "\\btry\\b", "\\bcatch\\b", "\\bfinally\\b",
-        "\\bthrow\\b", "\\bsynchronized\\b", "\\bassert\\b", "->", "::", "\\bDouble\\b", "\\bFloat\\b", "\\bSystem\\b",
+        "\\bthrow\\b", "\\bsynchronized\\b", "\\bassert\\b", "->", "::", "\\bDouble\\b", "\\bFloat\\b", "\\bSystem\\b(?!\\.arraycopy)",
         "\\bObject\\b", "\\w+Exact\\b", "\\bprotected\\b", "\\bstatic \\{", "\\bnew \\w+\\(\\) \\{", "\\bjava\\b"};
 
     private static final Due due = new Due();

@@ -64,12 +64,49 @@ public final class ModelTest {
         }
         Object[] arguments = new Object[method.getParameterCount()];
         for (int i = 0; i < arguments.length; i++) {
-            arguments[i] = drawNumber();
+            arguments[i] = random.nextInt(5) > 0 ? drawUsual(method.getName(), i) : drawNumber();
         }
         if (method.getName().equals("exchange") && random.nextInt(4) > 0) {
             Arrays.sort(arguments);
         }
         call(method, arguments);
+    }
+
+    /** A number that is mostly in range. */
+    private int drawUsual(String name, int place) {
+        boolean ofTable = name.endsWith("Table");
+        switch (name + place) {
+            case "configure0":
+                return 2 + random.nextInt(3);
+            case "configure1":
+                return 1 + random.nextInt(4);
+            case "createTable1":
+            case "importTable1":
+                return random.nextInt(2);
+            case "createTable2":
+                return random.nextInt(2) == 0 ? random.nextInt(6) : bench.length() + random.nextInt(4);
+            case "exportTable1":
+                return random.nextInt(4);
+            case "writeTable2":
+                return random.nextInt(2) == 0 ? random.nextInt(4) : 'a' + random.nextInt(4);
+            case "setLetter1":
+            case "appendLetter0":
+            case "appendPattern0":
+            case "runCount0":
+            case "discrepancy0":
+                return random.nextInt(model.letterCount());
+            case "lyndonWord0":
+            case "lyndonCount0":
+                return 1 + random.nextInt(model.order());
+            case "missingBlock0":
+                return random.nextInt(6);
+            default:
+                return ofTable && place == 0 ? random.nextInt(2) : ofTable ? random.nextInt(6) : drawPlace();
+        }
+    }
+
+    private int drawPlace() {
+        return random.nextInt(Math.max(2, bench.length()));
     }
 
     private int drawNumber() {

@@ -40,6 +40,7 @@ public final class PromiseTest {
         autocorrelation();
         undoing();
         snapshots();
+        oneLetter();
         tables();
         exports();
         imports();
@@ -697,6 +698,22 @@ public final class PromiseTest {
         due.is(45, "undo()", x.undo(), NOTHING);
         due.sequence(45, x, "1");
         everyEditCounts();
+        longSequences();
+    }
+
+    private static void longSequences() {
+        DeBruijnWorkbench x = new DeBruijnWorkbench();
+        x.configure(4, 4);
+        String[] before = new String[10];
+        for (int i = 0; i < before.length; i++) {
+            before[i] = Due.letters(x);
+            x.construct(3, 7 * i);
+        }
+        for (int i = before.length - 1; i >= before.length - 6; i--) {
+            due.is(45, "undo()", x.undo(), 256);
+            due.sequence(45, x, before[i]);
+        }
+        due.is(45, "undo()", x.undo(), NOTHING);
     }
 
     private static void everyEditCounts() {
@@ -757,6 +774,26 @@ public final class PromiseTest {
         due.is(48, "restore()", empty.restore(), 0);
     }
 
+    private static void oneLetter() {
+        DeBruijnWorkbench x = Due.bench(4, 3, "2");
+        due.is(12, "rotate(5)", x.rotate(5), 2);
+        due.is(13, "reverse()", x.reverse(), 1);
+        due.is(14, "complement()", x.complement(), 1);
+        due.is(17, "firstCut(1)", x.firstCut(1), BAD);
+        due.is(20, "letterAfter(21)", x.letterAfter(21), 1);
+        due.is(22, "distance(21, 21)", x.distance(21, 21), 0);
+        due.is(23, "linearLength()", x.linearLength(), 3);
+        due.is(24, "linearLetter(0)", x.linearLetter(0), 1);
+        due.is(24, "linearLetter(2)", x.linearLetter(2), 1);
+        due.is(26, "missingBlock(20)", x.missingBlock(20), 20);
+        due.is(26, "missingBlock(21)", x.missingBlock(21), 22);
+        due.is(26, "missingBlock(63)", x.missingBlock(63), NONE);
+        due.is(40, "patternPosition(0)", x.patternPosition(0), 0);
+        due.is(42, "runCount(1, 1)", x.runCount(1, 1), 1);
+        due.is(43, "discrepancy(1)", x.discrepancy(1), 3);
+        due.is(44, "autocorrelationBits(9)", x.autocorrelationBits(9), CONSTANT);
+    }
+
     private static void tables() {
         DeBruijnWorkbench x = new DeBruijnWorkbench();
         due.is(49, "createTable(2, 0, -1)", x.createTable(2, 0, -1), BAD);
@@ -787,8 +824,10 @@ public final class PromiseTest {
         due.is(51, "readTable(1, MIN)", x.readTable(1, MIN), OUT);
         due.is(49, "createTable(0, 0, 300)", x.createTable(0, 0, 300), BAD);
         due.is(51, "readTable(0, 255)", x.readTable(0, 255), -2);
+        x.writeTable(0, 0, 5);
         due.is(49, "createTable(0, 1, 256)", x.createTable(0, 1, 256), 1);
         due.is(49, "readTable(0, 255)", x.readTable(0, 255), 0);
+        due.is(49, "readTable(0, 0)", x.readTable(0, 0), 0);
         due.is(49, "createTable(1, 0, 0)", x.createTable(1, 0, 0), 1);
         due.is(51, "readTable(1, 0)", x.readTable(1, 0), OUT);
     }
