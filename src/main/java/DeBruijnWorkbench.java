@@ -1363,8 +1363,11 @@ public final class DeBruijnWorkbench {
             return most - least;
         }
 
-        /** Only for a word that has two different letters: then the divisor is above 0. */
+        /** 0.0 for a word that has no two different letters: there is nothing to divide by. */
         static double autocorrelation(Word word, int shift) {
+            if (word.size() < 1) {
+                return 0.0;
+            }
             double mean = (double) letterSum(word) / (double) word.size();
             double products = 0.0;
             double squares = 0.0;
@@ -1374,7 +1377,7 @@ public final class DeBruijnWorkbench {
                 products = products + here * there;
                 squares = squares + here * here;
             }
-            return products / squares;
+            return squares > 0.0 ? products / squares : 0.0;
         }
 
         private static int letterSum(Word word) {
