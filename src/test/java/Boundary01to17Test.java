@@ -169,6 +169,14 @@ public final class Boundary01to17Test {
         ask.scene("configure(4, 4)").does("construct(0, 0) -> 256", "isDeBruijn() -> 1", "construct(2, 0) -> 256", "isDeBruijn() -> 1");
     }
 
+    @Says("Replaces the sequence by a construction.")
+    static void promise07_againOnTheSameObject(Ask ask) {
+        ask.busy().does("construct(0, 0) -> 9", "construct(0, 0) -> 9", "sequence -> 221201100", "construct(3, 2) -> 9", "construct(3, 2) -> 9",
+            "sequence -> 001102122", "construct(3, 1) -> 9", "sequence -> 001122021", "construct(1, 0) -> 9", "sequence -> 001021122");
+        ask.scene("configure(4, 4)", "construct(0, 0)", "construct(3, 63)", "configure(3, 2)").does("construct(0, 0) -> 9", "sequence -> 221201100",
+            "construct(3, 0) -> 9", "sequence -> 001122102");
+    }
+
     // Promise 8: appendCommand.
 
     @Says("the character code, 33 to 126")
@@ -309,6 +317,12 @@ public final class Boundary01to17Test {
         ask.busy().does("setLetter(1, 2) -> 2", "sequence -> 02112", "undoCount() -> 6", "undo() -> 5", "sequence -> 02112", "undoCount() -> 5");
     }
 
+    @Says("undo restores the sequence from before the latest edit that is not undone")
+    static void promise10_afterUndoAndRestore(Ask ask) {
+        ask.busy().does("undo() -> 4", "setLetter(0, 1) -> 0", "sequence -> 1211", "setLetter(4, 1) -> NONE");
+        ask.busy().does("restore() -> 3", "setLetter(0, 1) -> 0", "sequence -> 111", "setLetter(3, 1) -> NONE");
+    }
+
     // Promise 11: appendLetter.
 
     @Says("the letter, 0 to k - 1")
@@ -330,6 +344,12 @@ public final class Boundary01to17Test {
     static void promise11_badLetterIntoTheFullSequence(Ask ask) {
         ask.scene("configure(4, 4)", "construct(0, 0)").keeps("appendLetter(4) -> BAD_ARGUMENT", "appendLetter(-1) -> BAD_ARGUMENT",
             "appendLetter(3) -> FULL");
+    }
+
+    @Says("undo restores the sequence from before the latest edit that is not undone")
+    static void promise11_afterUndoAndRestore(Ask ask) {
+        ask.busy().does("undo() -> 4", "appendLetter(0) -> 5", "sequence -> 02110");
+        ask.busy().does("restore() -> 3", "appendLetter(0) -> 4", "sequence -> 0110");
     }
 
     // Promise 12: rotate.

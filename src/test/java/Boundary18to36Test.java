@@ -216,6 +216,19 @@ public final class Boundary18to36Test {
         ask.busy().keeps("differentBlocks() -> 5");
     }
 
+    @Says("this also holds if the sequence is shorter than n")
+    static void promise25_shorterThanTheOrder(Ask ask) {
+        ask.scene("configure(2, 6)", "letters(01)").keeps("differentBlocks() -> 2");
+        ask.scene("configure(2, 6)", "letters(11)").keeps("differentBlocks() -> 1");
+        ask.scene("configure(4, 4)", "letters(012)").keeps("differentBlocks() -> 3");
+    }
+
+    @Says("Returns the number of different blocks that occur.")
+    static void promise25_askedAgain(Ask ask) {
+        ask.scene("construct(1, 0)").does("differentBlocks() -> 8", "configure(2, 3) -> 8", "differentBlocks() -> 0", "letters(0)", "differentBlocks() -> 1",
+            "setLetter(0, 1) -> 0", "differentBlocks() -> 1", "undo() -> 1", "undo() -> 0", "differentBlocks() -> 0");
+    }
+
     // Promise 26: missingBlock.
 
     @Says({"the index in the ascending order of the codes of all blocks that do not occur, from 0", "NONE if there is no such index"})
@@ -232,6 +245,19 @@ public final class Boundary18to36Test {
         ask.scene("configure(4, 4)", "construct(2, 0)").keeps("missingBlock(0) -> NONE", "missingBlock(-1) -> NONE");
         ask.scene("construct(0, 0)").keeps("missingBlock(0) -> NONE");
         ask.scene("configure(4, 1)", "letters(012)").keeps("missingBlock(0) -> 3", "missingBlock(1) -> NONE");
+    }
+
+    @Says("this also holds if the sequence is shorter than n")
+    static void promise26_shorterThanTheOrder(Ask ask) {
+        // 010101 and 101010 occur: the codes 21 and 42.
+        ask.scene("configure(2, 6)", "letters(01)").keeps("missingBlock(20) -> 20", "missingBlock(21) -> 22", "missingBlock(40) -> 41", "missingBlock(41) -> 43",
+            "missingBlock(61) -> 63", "missingBlock(62) -> NONE");
+    }
+
+    @Says("Returns a block that does not occur.")
+    static void promise26_askedAgain(Ask ask) {
+        ask.scene("construct(1, 0)").does("missingBlock(0) -> NONE", "configure(2, 3) -> 8", "missingBlock(0) -> 0", "missingBlock(7) -> 7", "letters(0)",
+            "missingBlock(0) -> 1", "setLetter(0, 1) -> 0", "missingBlock(0) -> 0", "missingBlock(7) -> NONE");
     }
 
     // Promise 27: firstRepeat.
@@ -253,6 +279,19 @@ public final class Boundary18to36Test {
         // The block of the last position goes round the end.
         ask.scene("configure(2, 2)", "letters(00110)").keeps("firstRepeat() -> 4");
         ask.scene("createTable(0, 0, 256)", "importTable(0, 0)").keeps("firstRepeat() -> 1");
+    }
+
+    @Says("this also holds if the sequence is shorter than n")
+    static void promise27_shorterThanTheOrder(Ask ask) {
+        ask.scene("configure(2, 6)", "letters(01)").keeps("firstRepeat() -> NONE");
+        ask.scene("configure(2, 6)", "letters(00)").keeps("firstRepeat() -> 1");
+        ask.scene("configure(2, 6)", "letters(00101)").keeps("firstRepeat() -> NONE");
+    }
+
+    @Says("whose block occurs at a smaller position as well")
+    static void promise27_askedAgain(Ask ask) {
+        ask.scene("construct(1, 0)").does("firstRepeat() -> NONE", "firstRepeat() -> NONE", "rotate(1) -> 0", "firstRepeat() -> NONE", "configure(2, 3) -> 8",
+            "firstRepeat() -> NONE", "letters(11)", "firstRepeat() -> 1");
     }
 
     // Promise 28: isDeBruijn.

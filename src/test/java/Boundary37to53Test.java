@@ -328,6 +328,21 @@ public final class Boundary37to53Test {
             "letter(0) -> 0", "letter(255) -> 3");
     }
 
+    @Says("at most 6 edits can be undone")
+    static void promise45_sixTimes256Letters(Ask ask) {
+        DeBruijnWorkbench bench = new DeBruijnWorkbench();
+        bench.configure(4, 4);
+        bench.construct(0, 0);
+        String word = Due.letters(bench);
+        // Nine edits: every row that an earlier sequence may be kept in is written with 256 letters.
+        Scene scene = ask.scene("configure(4, 4)", "construct(0, 0)", "rotate(1)", "rotate(1)", "rotate(1)", "rotate(1)", "rotate(1)", "rotate(1)", "rotate(1)",
+            "rotate(1)");
+        for (int shift = 7; shift >= 2; shift--) {
+            scene.does("undo() -> 256", "sequence -> " + word.substring(shift) + word.substring(0, shift));
+        }
+        scene.keeps("undo() -> NOTHING_SAVED");
+    }
+
     // Promise 46: undoCount.
 
     @Says("Returns the number, 0 to 6.")
