@@ -36,6 +36,22 @@ final class Ask {
         Due due = new Due();
         Doc doc = new Doc();
         Set<String> noted = new HashSet<>();
+        Set<Integer> tested = runMethods(tests, due, doc, noted);
+        for (int promise = first; promise <= last; promise++) {
+            due.that(tested.contains(promise), "promise " + promise + " has no boundary test");
+            checkCoverage(due, doc, promise, noted);
+        }
+        due.end();
+    }
+
+    /** Runs tests of sentences that name no boundary: error codes and extremes are not asked for. */
+    static void runSentences(Class<?> tests) throws Exception {
+        Due due = new Due();
+        runMethods(tests, due, new Doc(), new HashSet<>());
+        due.end();
+    }
+
+    private static Set<Integer> runMethods(Class<?> tests, Due due, Doc doc, Set<String> noted) throws Exception {
         Set<Integer> tested = new HashSet<>();
         Method[] methods = tests.getDeclaredMethods();
         Arrays.sort(methods, Comparator.comparing(Method::getName));
@@ -48,11 +64,7 @@ final class Ask {
                 method.invoke(null, new Ask(due, method.getName(), noted));
             }
         }
-        for (int promise = first; promise <= last; promise++) {
-            due.that(tested.contains(promise), "promise " + promise + " has no boundary test");
-            checkCoverage(due, doc, promise, noted);
-        }
-        due.end();
+        return tested;
     }
 
     private static void checkWords(Due due, Doc doc, int promise, Method method) {

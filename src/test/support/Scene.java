@@ -1,5 +1,3 @@
-import java.lang.reflect.InvocationTargetException;
-import java.lang.reflect.Method;
 import java.util.ArrayList;
 import java.util.Arrays;
 import java.util.List;
@@ -86,21 +84,7 @@ final class Scene {
                 Arrays.stream(inside.split(" ")).forEach(e -> on.appendPattern(Integer.parseInt(e)));
                 return "";
             default:
-                return invoke(on, name, inside.isEmpty() ? new String[0] : inside.split(", "));
-        }
-    }
-
-    private static String invoke(DeBruijnWorkbench on, String name, String[] words) {
-        Class<?>[] types = new Class<?>[words.length];
-        Arrays.fill(types, int.class);
-        Object[] numbers = Arrays.stream(words).map(w -> Integer.valueOf(Ask.number(w))).toArray();
-        try {
-            Method method = DeBruijnWorkbench.class.getMethod(name, types);
-            return method.invoke(on, numbers).toString();
-        } catch (InvocationTargetException e) {
-            return e.getCause().toString();
-        } catch (ReflectiveOperationException e) {
-            throw new IllegalArgumentException(name, e);
+                return Calls.answer(on, call);
         }
     }
 }
