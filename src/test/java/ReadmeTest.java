@@ -32,7 +32,7 @@ public final class ReadmeTest {
         new ReadmeTest().run();
     }
 
-    private void run() throws IOException {
+    private void run() throws Exception {
         calls();
         names();
         errorCodes();
@@ -40,6 +40,7 @@ public final class ReadmeTest {
         due.that(doc.section("What it is").contains("An object is used for at most 512 calls after it has been made"), "the document has another number");
         paths();
         tests();
+        commands();
         due.end();
     }
 
@@ -119,5 +120,31 @@ public final class ReadmeTest {
         while (named.find()) {
             due.that(Files.exists(Path.of("src/test/java/" + named.group(1) + ".java")), "there is no test " + named.group(1));
         }
+    }
+
+    /** The commands for one test alone, with a folder of their own; .ci/run is what runs this test. */
+    private void commands() throws IOException, InterruptedException {
+        int run = 0;
+        Matcher block = BLOCK.matcher(text);
+        while (block.find()) {
+            if (block.group(1).equals("sh") && !block.group(2).equals(".ci/run\n")) {
+                Path out = Files.createTempDirectory("readme");
+                Process process = new ProcessBuilder("sh", "-e", "-c", block.group(2).replace("/tmp/out", out.toString())).redirectErrorStream(true).start();
+                String printed = new String(process.getInputStream().readAllBytes(), StandardCharsets.UTF_8);
+                due.that(process.waitFor() == 0, "these commands fail:\n" + block.group(2) + printed);
+                remove(out);
+                run++;
+            }
+        }
+        due.that(run == 1, run + " blocks of commands were run");
+    }
+
+    private static void remove(Path folder) throws IOException {
+        try (Stream<Path> files = Files.list(folder)) {
+            for (Path file : files.collect(Collectors.toList())) {
+                Files.delete(file);
+            }
+        }
+        Files.delete(folder);
     }
 }
